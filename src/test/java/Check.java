@@ -1,0 +1,54 @@
+/** Counts and prints the calls whose answer is not the one that is due. */
+final class Check {
+    private int wrong = 0;
+    private int asked = 0;
+
+    void due(String call, long got, long want) {
+        asked++;
+        if (got != want) {
+            wrong++;
+            if (wrong <= 50) {
+                System.out.println(call + " answered " + got + ", due is " + want);
+            }
+        }
+    }
+
+    void isTrue(String what, boolean holds) {
+        due(what, holds ? 1 : 0, 1);
+    }
+
+    boolean hasWrong() {
+        return wrong > 0;
+    }
+
+    void end() {
+        System.out.println(wrong == 0 ? asked + " answers are as due"
+                : wrong + " of " + asked + " answers are not as due");
+        if (wrong != 0) {
+            System.exit(1);
+        }
+    }
+
+    static RoadRiver valley(String road, String... springs) {
+        RoadRiver x = new RoadRiver();
+        type(x, 3, road);
+        for (int spring = 0; spring < springs.length; spring++) {
+            type(x, spring, springs[spring]);
+        }
+        return x;
+    }
+
+    static void type(RoadRiver x, int text, String bytes) {
+        for (int i = 0; i < bytes.length(); i++) {
+            x.type(text, bytes.charAt(i));
+        }
+    }
+
+    /** A new sheet with these items. */
+    static void lay(RoadRiver x, int s, int form, int... items) {
+        x.sheet(s, form, items.length);
+        for (int i = 0; i < items.length; i++) {
+            x.lay(s, form, i, items[i]);
+        }
+    }
+}
