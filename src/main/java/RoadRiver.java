@@ -881,8 +881,11 @@ public final class RoadRiver {
         /** Of each two springs the first day on which their levels differ. */
         private void fillPartings() {
             for (int spring = 0; spring < SPRINGS; spring++) {
-                for (int other = 0; other < SPRINGS; other++) {
-                    partings[spring][other] = parting(spring, other);
+                partings[spring][spring] = DAYS;
+                for (int other = 0; other < spring; other++) {
+                    int day = parting(spring, other);
+                    partings[spring][other] = day;
+                    partings[other][spring] = day;
                 }
             }
         }
@@ -992,12 +995,15 @@ public final class RoadRiver {
             }
         }
 
-        /** Each contract doubles the sets told so far: those without it, then those with it. */
+        /**
+         * Each contract doubles the sets told so far: those without it, then those with it. Sets
+         * with one that is not there are not told anew, as nobody looks at them.
+         */
         private void fillBrought(int spring) {
             brought[spring][0] = 0;
             for (int contract = 0; contract < CONTRACTS; contract++) {
                 int amount = amountOf(contract, spring);
-                int many = 1 << contract;
+                int many = isSigned(contract) ? 1 << contract : 0;
                 for (int set = 0; set < many && many + set < SETS; set++) {
                     brought[spring][many + set] = brought[spring][set] + amount;
                 }

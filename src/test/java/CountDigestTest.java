@@ -1,3 +1,6 @@
+import java.util.ArrayList;
+import java.util.List;
+
 /** Promises 36 and 37: counts and the digest. */
 public final class CountDigestTest {
     private static final int BAD = RoadRiver.BAD;
@@ -7,6 +10,7 @@ public final class CountDigestTest {
     public static void main(String[] args) {
         count();
         digestOfNew();
+        digestByCalls();
         digestTells();
         digestLeaves();
         check.end();
@@ -52,6 +56,56 @@ public final class CountDigestTest {
             }
         }
         check.due("37 new", new RoadRiver().digest(), h);
+    }
+
+    /** Of a valley in which each of the calls answers something else. */
+    private static void digestByCalls() {
+        RoadRiver x = Check.valley("1212124", "12431231", "124313000", "02450312");
+        x.set(2, 4);
+        x.set(4, 7);
+        x.odds(1, 4);
+        x.odds(2, 5);
+        x.dike(1, 1, 4);
+        x.contract(3, 2, 40, 3);
+        x.contract(6, 29, 3, 1);
+        x.fact(5, 0, 1);
+        check.due("37 by calls", x.digest(), byCalls(x));
+        x.set(6, 0);
+        x.type(2, '!');
+        x.odds(0, 0);
+        check.due("37 by calls, with a fault", x.digest(), byCalls(x));
+    }
+
+    private static long byCalls(RoadRiver x) {
+        List<Long> told = new ArrayList<>();
+        for (int what = 0; what <= 7; what++) {
+            told.add((long) x.count(what));
+        }
+        for (int text = 0; text < 4; text++) {
+            told.add((long) x.fault(text));
+        }
+        for (int yard = 0; yard < x.count(0); yard++) {
+            told.add((long) x.height(yard));
+        }
+        for (int s = 0; s < 3; s++) {
+            long[] row = {x.possession(s), x.water(s, 5, 0), x.water(s, 5, 1),
+                x.cost(s, 5, 0, 3, 0), x.cost(s, 5, 0, 3, 1), x.cost(s, 5, 0, 3, 2),
+                x.deed(s, 0), x.deed(s, 1), x.deed(s, 2),
+                x.waits(s, 4, 0, 2, 0), x.waits(s, 4, 0, 2, 1), x.goes(s, 4, 0, 2),
+                x.keep(s, 5, 0, 4, 2, 0), x.keep(s, 5, 0, 4, 2, 1), x.keep(s, 5, 0, 4, 2, 2), x.closed(s, 0)};
+            for (long v : row) {
+                told.add(v);
+            }
+        }
+        long[] last = {x.never(0), x.never(1), x.gain(0), x.gain(1), x.watch(), x.fit()};
+        for (long v : last) {
+            told.add(v);
+        }
+        long h = 17;
+        for (long v : told) {
+            h = 31 * h + v;
+        }
+        return h;
     }
 
     private static void digestTells() {

@@ -122,6 +122,9 @@ public final class DaysTest {
         x.set(5, 99);
         check.due("18 any number", x.deed(0, 2), -594);
         check.due("18 no water", x.deed(1, 2), 0);
+        RoadRiver y = Check.valley("00", "999999999999999999999999999999");
+        check.due("18 all days", y.deed(0, 0), 60);
+        check.due("18 all days", y.deed(0, 1), 30);
         check.due("18 spring", x.deed(3, 0), -100002);
         check.due("18 spring", x.deed(-1, 2), -100002);
         check.due("18 what", x.deed(0, 3), -100002);

@@ -206,6 +206,7 @@ public final class RoadTest {
         RoadRiver x = Check.valley("00", "99999");
         check.due("11 lost", x.read(0), -11);
         check.due("11 finding", x.count(8), 1);
+        check.due("11 all wet", x.water(0, 1, 0), 3);
         Check.lay(x, 0, 0, 0, 0, 0, 1, 1, 1, 0, 0);
         check.due("11 as many as are whole", x.read(0), 2);
         check.due("11 they are there", x.count(4), 2);
@@ -221,6 +222,11 @@ public final class RoadTest {
         check.due("11 as long as there is room", x.read(0), 5);
         check.due("11 no room", x.read(0), 0);
         check.due("11 how many", x.count(4), 8);
+        RoadRiver y = Check.valley("000", "99999");
+        Check.lay(y, 0, 1, 0, 1, 3);
+        check.due("11 three items are whole", y.read(0), 1);
+        check.due("11 from, to", y.water(0, 3, 0), 4);
+        check.due("11 day", y.water(0, 2, 0), 7);
         check.due("11 sheet", x.read(4), BAD);
         check.due("11 sheet", x.read(-1), BAD);
         check.due("11 finding stays", x.count(8), 1);

@@ -35,6 +35,9 @@ public final class SheetsTest {
         check.due("30 unchanged", x.get(3, 2, 59), 77);
         check.due("30 anew", x.sheet(3, 2, 60), 60);
         check.due("30 of zeros", x.get(3, 2, 59), 0);
+        x.lay(3, 2, 0, 78);
+        x.sheet(3, 1, 2);
+        check.due("30 of zeros", x.get(3, 1, 0), 0);
     }
 
     private static void lose() {

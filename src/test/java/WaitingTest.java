@@ -38,6 +38,11 @@ public final class WaitingTest {
         fraction("nothing", x, new int[] {0, 1, 0, 3}, 0, 1);
         x.dike(0, 0, 1);
         fraction("dikes are known", x, new int[] {0, 1, 0, 0}, 1, 1);
+        RoadRiver y = Check.valley("00", "999999999999999999999999999990");
+        y.set(3, 9);
+        y.set(2, 99);
+        fraction("up to the last day", y, new int[] {0, 28, 0, 1}, 3, 1);
+        check.due("20 up to the last day", y.goes(0, 28, 0, 1), 0);
     }
 
     /** On day 0 alike; then one falls at once, one after a day more, one stays to the last day. */
