@@ -1,14 +1,23 @@
 /** Counts and prints the calls whose answer is not the one that is due. */
 final class Check {
+    private static final int MOST_PRINTED = 50;
+
+    private String sentence = "";
     private int wrong = 0;
     private int asked = 0;
+
+    /** The words of the document that the next answers are held against. */
+    void says(String words) {
+        sentence = words;
+    }
 
     void due(String call, long got, long want) {
         asked++;
         if (got != want) {
             wrong++;
-            if (wrong <= 50) {
-                System.out.println(call + " answered " + got + ", due is " + want);
+            if (wrong <= MOST_PRINTED) {
+                System.out.println(call + " answered " + got + ", due is " + want
+                        + (sentence.isEmpty() ? "" : ", as the document says: " + sentence));
             }
         }
     }
@@ -42,6 +51,12 @@ final class Check {
         for (int i = 0; i < bytes.length(); i++) {
             x.type(text, bytes.charAt(i));
         }
+    }
+
+    /** Takes the place of a text that was there. */
+    static void retype(RoadRiver x, int text, String bytes) {
+        x.wipe(text);
+        type(x, text, bytes);
     }
 
     /** A new sheet with these items. */
