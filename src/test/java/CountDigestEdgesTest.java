@@ -1,6 +1,7 @@
 import java.math.BigInteger;
 import java.util.ArrayList;
 import java.util.List;
+import java.util.Random;
 
 /** Promises 36 and 37: each sentence with a boundary. */
 public final class CountDigestEdgesTest {
@@ -17,6 +18,7 @@ public final class CountDigestEdgesTest {
         countsWithFaults();
         countRefuses();
         digestOfRoads();
+        digestOfManyValleys();
         digestWrittenOut();
         digestWithRefusals();
         digestTellsEachThing();
@@ -133,6 +135,37 @@ public final class CountDigestEdgesTest {
             x.odds(2, 0);
             check.due(yards + " yards", x.digest(), byCalls(x, yards));
         }
+    }
+
+    /** So many that each number in the calls that are told matters in one of them. */
+    private static void digestOfManyValleys() {
+        check.says("water() on DAY 5 0, 1, cost(it, 5, 0, 3, 0 to 2), waits(it, 4, 0, 2), goes(it, 4, 0, 2), keep(it, 5, "
+                + "0, 4, 2, 0 to 2), closed(it, 0)");
+        Random random = new Random(1);
+        for (int n = 0; n < 60; n++) {
+            String common = figures(random, 3 + random.nextInt(3), 4);
+            RoadRiver x = Check.valley(figures(random, 5 + random.nextInt(8), 7), common + figures(random, 7, 9),
+                    common + figures(random, 7, 9), common + figures(random, 7, 9));
+            x.set(2, 2 + random.nextInt(30));
+            x.set(3, 1 + random.nextInt(9));
+            x.set(6, random.nextInt(4));
+            for (int spring = 0; spring < 3; spring++) {
+                x.odds(spring, random.nextInt(6));
+            }
+            x.dike(0, random.nextInt(3), random.nextInt(8));
+            x.contract(n % 8, random.nextInt(8), random.nextInt(50), random.nextInt(9));
+            x.contract(7, 29, random.nextInt(50), random.nextInt(9));
+            x.fact(random.nextInt(9), random.nextInt(5), random.nextInt(2));
+            check.due("valley " + n, x.digest(), byCalls(x, x.count(0)));
+        }
+    }
+
+    private static String figures(Random random, int many, int most) {
+        StringBuilder row = new StringBuilder();
+        for (int i = 0; i < many; i++) {
+            row.append((char) ('0' + random.nextInt(most)));
+        }
+        return row.toString();
     }
 
     /** Each number of it by hand: three yards, so that cost and keep are refused and waits is not. */

@@ -199,5 +199,14 @@ public final class SignEdgesTest {
         x.undo(3);
         check.due("yard 0 is there", x.fit(), 0);
         check.due("the fact stays", x.count(6), 1);
+        for (int yards = 0; yards < 12; yards++) {
+            for (int is = 0; is < 2; is++) {
+                RoadRiver y = Check.valley("0".repeat(yards), FLOOD, "", "");
+                y.fact(0, yards, is);
+                check.due("the first yard that is not there", y.fit(), 7);
+                y.type(3, '0');
+                check.due("it is there", y.fit(), is == 1 ? 1 : 6);
+            }
+        }
     }
 }

@@ -33,6 +33,7 @@ public final class WaterEdgesTest {
         possessionRefuses();
         wetRefuses();
         waterRefuses();
+        eachChangeIsSeenAtOnce();
         check.end();
     }
 
@@ -387,5 +388,54 @@ public final class WaterEdgesTest {
         RoadRiver y = Check.valley("", FLOOD);
         check.due("no yards, no water", y.water(0, 0, 0), 0);
         check.due("no yards, no islands", y.water(0, 0, 1), 0);
+    }
+
+    /** What was asked before does not linger: water is asked for between any two changes. */
+    private static void eachChangeIsSeenAtOnce() {
+        check.says("a YARD is WET, if the LEVEL is above its HEIGHT, and no DIKE keeps it");
+        RoadRiver x = new RoadRiver();
+        seen("nothing", x, 0);
+        x.type(3, '0');
+        x.type(3, '4');
+        seen("a road", x, 0);
+        x.type(0, '9');
+        seen("a level", x, 3);
+        x.undo(0);
+        seen("undone", x, 0);
+        x.type(0, '4');
+        seen("another level", x, 1);
+        x.wipe(0);
+        seen("wiped", x, 0);
+        x.type(0, '5');
+        seen("told again", x, 3);
+        x.set(0, 6);
+        seen("thaw 6", x, 0);
+        x.set(0, 5);
+        seen("thaw 5", x, 3);
+        x.dike(0, 0, 0);
+        seen("a dike", x, 2);
+        x.breaks();
+        seen("it broke", x, 3);
+        Check.lay(x, 0, 0, 1, 1, 0);
+        seen("a sheet", x, 3);
+        x.read(0);
+        seen("it was read", x, 1);
+        x.undo(3);
+        seen("a yard less", x, 1);
+        x.type(3, 'x');
+        seen("a fault", x, 0);
+        x.wipe(3);
+        seen("no road", x, 0);
+        Check.type(x, 3, "000");
+        seen("three yards", x, 5);
+        Check.retype(x, 0, "05");
+        x.set(1, 0);
+        check.due("George 0", x.water(0, 1, 0), 0);
+        x.set(1, 1);
+        check.due("George 1", x.water(0, 1, 0), 5);
+    }
+
+    private static void seen(String what, RoadRiver x, int wet) {
+        check.due(what, x.water(0, 0, 0), wet);
     }
 }
