@@ -142,7 +142,7 @@ public final class CountDigestEdgesTest {
         check.says("water() on DAY 5 0, 1, cost(it, 5, 0, 3, 0 to 2), waits(it, 4, 0, 2), goes(it, 4, 0, 2), keep(it, 5, "
                 + "0, 4, 2, 0 to 2), closed(it, 0)");
         Random random = new Random(1);
-        for (int n = 0; n < 60; n++) {
+        for (int n = 0; n < 400; n++) {
             String common = figures(random, 3 + random.nextInt(3), 4);
             RoadRiver x = Check.valley(figures(random, 5 + random.nextInt(8), 7), common + figures(random, 7, 9),
                     common + figures(random, 7, 9), common + figures(random, 7, 9));

@@ -29,7 +29,9 @@ public final class WaitingEdgesTest {
         keepForSevenDays();
         keepOfUpToSoManyYards();
         keepWithTheFewestYards();
+        keepWhereTheLowYardsLie();
         keepTheFirstOfLikeOnes();
+        keepTheFirstOfAnyTwo();
         keepHoweverManyThereAre();
         keepNone();
         keepOnDaysThatAreNotLent();
@@ -339,6 +341,30 @@ public final class WaitingEdgesTest {
         keeps("three keep all", x, new int[] {0, 0, 0, 2, 3}, 7, 0, 3);
     }
 
+    /** On the whole road, with low yards at two places (perhaps the same one). */
+    private static void keepWhereTheLowYardsLie() {
+        check.says("of like ones with the fewest YARDS");
+        for (int first = 0; first < 12; first++) {
+            for (int last = first; last < 12; last++) {
+                RoadRiver x = Check.valley(roadWithLow(first, last), FLOOD);
+                int many = last - first + 1;
+                keeps("low " + first + " and " + last, x, new int[] {0, 0, 0, 11, 12}, 7, first, many);
+                keeps("just enough for " + first + " and " + last, x, new int[] {0, 0, 0, 11, many}, 7, first, many);
+                if (many > 1) {
+                    keeps("too few for " + first + " and " + last, x, new int[] {0, 0, 0, 11, many - 1}, 0, 0, 0);
+                }
+            }
+        }
+    }
+
+    private static String roadWithLow(int... yards) {
+        StringBuilder road = new StringBuilder("9".repeat(12));
+        for (int yard : yards) {
+            road.setCharAt(yard, '0');
+        }
+        return road.toString();
+    }
+
     private static void keepTheFirstOfLikeOnes() {
         check.says("of like ones the first");
         RoadRiver x = Check.valley("0909", FLOOD);
@@ -351,6 +377,27 @@ public final class WaitingEdgesTest {
         keeps("both, of three yards", x, new int[] {0, 4, 0, 3, 3}, 7, 0, 3);
         keeps("both, of more", x, new int[] {0, 4, 0, 3, 12}, 7, 0, 3);
         keeps("yard 2 is not on the way", x, new int[] {0, 4, 0, 1, 3}, 7, 0, 1);
+    }
+
+    /** One of two low yards is kept to day 6, the other one from day 7 on; George is on day 9. */
+    private static void keepTheFirstOfAnyTwo() {
+        check.says("of like ones the first");
+        for (int first = 0; first < 12; first++) {
+            for (int last = first + 1; last < 12; last++) {
+                RoadRiver x = Check.valley(roadWithLow(first, last), FLOOD);
+                x.set(1, 9);
+                x.dike(first, first, 0);
+                x.dike(last, last, 7);
+                keeps("the first of " + first + " and " + last, x, new int[] {0, 4, 0, 11, 1}, 4, first, 1);
+                x.breaks();
+                x.breaks();
+                x.dike(last, last, 0);
+                x.dike(first, first, 7);
+                keeps("the first of " + first + " and " + last, x, new int[] {0, 4, 0, 11, 1}, 4, first, 1);
+                keeps("a day ahead the first is better", x, new int[] {0, 3, 0, 11, 1}, 4, first, 1);
+                keeps("a day later the last is better", x, new int[] {0, 5, 0, 11, 1}, 5, last, 1);
+            }
+        }
     }
 
     private static void keepHoweverManyThereAre() {
