@@ -46,14 +46,16 @@ public final class CostEdgesTest {
 
     private static void whicheverIsAhead() {
         check.says("COST of a way from a YARD to another one (both in it, whichever is ahead)");
-        RoadRiver x = Check.valley("090099000999", "5");
+        String road = "090099000999";
         for (int from = 0; from < 12; from++) {
+            RoadRiver x = Check.valley(road, "5");
             for (int to = 0; to < 12; to++) {
                 for (int what = 0; what < 3; what++) {
                     check.due("back " + from + " " + to, x.cost(0, 0, from, to, what), x.cost(0, 0, to, from, what));
                 }
             }
         }
+        RoadRiver x = Check.valley(road, "5");
         costs("forth", x, 0, 11, 21, 3 * 5 + 6, 36);
         costs("back", x, 11, 0, 21, 3 * 5 + 6, 36);
     }

@@ -300,8 +300,8 @@ public final class WaitingEdgesTest {
 
     private static void keepForSevenDays() {
         check.says("the way has no WET YARD on the most of these 7 DAYS (up to DAY 29)");
-        RoadRiver x = Check.valley("00", FLOOD, "", "");
         for (int day = 0; day < 30; day++) {
+            RoadRiver x = Check.valley("00", FLOOD, "", "");
             int days = Math.min(7, 30 - day);
             keeps("from day " + day, x, new int[] {0, day, 1, 1, 1}, days, 1, 1);
             keeps("too few yards, from day " + day, x, new int[] {0, day, 0, 1, 1}, 0, 0, 0);
@@ -311,14 +311,15 @@ public final class WaitingEdgesTest {
 
     private static void keepOfUpToSoManyYards() {
         check.says("a DIKE more .. of up to so many YARDS (1 to 12), from a DAY on, on a way, in a SPRING");
-        RoadRiver x = Check.valley(LOW_ROAD, FLOOD);
         for (int yards = 1; yards <= 12; yards++) {
+            RoadRiver x = Check.valley(LOW_ROAD, FLOOD);
             for (int last = 0; last < 12; last++) {
                 boolean isEnough = yards > last;
                 keeps(yards + " yards for a way to " + last, x, new int[] {0, 0, 0, last, yards},
                         isEnough ? 7 : 0, 0, isEnough ? last + 1 : 0);
             }
         }
+        RoadRiver x = Check.valley(LOW_ROAD, FLOOD);
         keeps("the last yard", x, new int[] {0, 0, 11, 11, 1}, 7, 11, 1);
         keeps("the last two", x, new int[] {0, 0, 10, 11, 2}, 7, 10, 2);
         keeps("the last two, of one", x, new int[] {0, 0, 10, 11, 1}, 0, 0, 0);
