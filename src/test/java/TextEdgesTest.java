@@ -21,6 +21,7 @@ public final class TextEdgesTest {
         daysAndTheLastOneTold();
         oddsAreZeroToNinetyNine();
         aNewObject();
+        theFirstCallOfANewObject();
         typeRefuses();
         undoToTheEmptyText();
         wipeEmptyAndFull();
@@ -265,6 +266,30 @@ public final class TextEdgesTest {
         check.due("its own dikes", y.count(4), 0);
         check.due("its own findings", y.count(8), 0);
         check.due("its own sheets", y.lose(0), -11);
+    }
+
+    private static void theFirstCallOfANewObject() {
+        check.says("Empty texts, no DIKES; all SHEETS are LOST.");
+        for (int spring = 0; spring < 3; spring++) {
+            check.due("possession", new RoadRiver().possession(spring), NONE);
+            check.due("level", new RoadRiver().level(spring, 29), 0);
+            check.due("water", new RoadRiver().water(spring, 0, 0), 0);
+            check.due("worth", new RoadRiver().deed(spring, 2), 0);
+        }
+        check.due("height", new RoadRiver().height(0), BAD);
+        check.due("cost", new RoadRiver().cost(0, 0, 0, 0, 0), BAD);
+        check.due("sets", new RoadRiver().never(0), 1);
+        check.due("mean, below", new RoadRiver().gain(1), 1);
+        check.due("watch", new RoadRiver().watch(), 0);
+        check.due("fit", new RoadRiver().fit(), 7);
+        check.due("forget", new RoadRiver().forget(), 0);
+        check.due("breaks", new RoadRiver().breaks(), NOT);
+        check.due("odds", new RoadRiver().odds(2, 0), 1);
+        check.due("read", new RoadRiver().read(0), -11);
+        check.due("write", new RoadRiver().write(0, 0), -11);
+        RoadRiver x = new RoadRiver();
+        x.contract(0, 29, 9, 1);
+        check.due("no possession: a contract may lose", x.never(0), 1);
     }
 
     private static void typeRefuses() {
