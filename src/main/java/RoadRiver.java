@@ -46,9 +46,10 @@ public final class RoadRiver {
     private static final int FINDING_BASE = -10;
 
     private static final int BAD_NUMBER = -100000 + BAD;
-    private static final long BAD_LONG = Long.MIN_VALUE - BAD;
-    private static final long NOT_LONG = Long.MIN_VALUE - NOT;
-    private static final int BAD_ITEM = Integer.MIN_VALUE;
+    private static final long LEAST_LONG = -9223372036854775808L;
+    private static final long BAD_LONG = LEAST_LONG - BAD;
+    private static final long NOT_LONG = LEAST_LONG - NOT;
+    private static final int BAD_ITEM = -2147483648;
 
     /** Far above the steps that Euclid's way needs for any two ints. */
     private static final int EUCLID_STEPS = 100;
@@ -760,6 +761,19 @@ public final class RoadRiver {
             return isSpringDay(spring, day) ? wetBits[spring][day] : 0;
         }
 
+        /** The first day on which the levels of two springs differ; behind the last one, if none. */
+        int parting(int spring, int other) {
+            if (!inside(spring, SPRINGS) || !inside(other, SPRINGS)) {
+                return DAYS;
+            }
+            for (int day = 0; day < DAYS; day++) {
+                if (levels[spring][day] != levels[other][day]) {
+                    return day;
+                }
+            }
+            return DAYS;
+        }
+
         int closedDays(int spring, int yard) {
             int days = 0;
             for (int day = 0; day < DAYS; day++) {
@@ -878,25 +892,15 @@ public final class RoadRiver {
             return sum;
         }
 
-        /** Of each two springs the first day on which their levels differ. */
         private void fillPartings() {
             for (int spring = 0; spring < SPRINGS; spring++) {
                 partings[spring][spring] = DAYS;
                 for (int other = 0; other < spring; other++) {
-                    int day = parting(spring, other);
+                    int day = valley.parting(spring, other);
                     partings[spring][other] = day;
                     partings[other][spring] = day;
                 }
             }
-        }
-
-        private int parting(int spring, int other) {
-            for (int day = 0; day < DAYS; day++) {
-                if (valley.levelOn(spring, day) != valley.levelOn(other, day)) {
-                    return day;
-                }
-            }
-            return DAYS;
         }
     }
 

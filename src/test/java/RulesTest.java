@@ -6,7 +6,9 @@ import java.nio.file.Files;
 import java.nio.file.Path;
 import java.util.ArrayList;
 import java.util.List;
+import java.util.Map;
 import java.util.Set;
+import java.util.TreeMap;
 import java.util.TreeSet;
 import java.util.regex.Matcher;
 import java.util.regex.Pattern;
@@ -19,6 +21,9 @@ public final class RulesTest {
         "goes IIII", "keep IIIIII", "contract IIII", "tears I", "never I", "gain I J", "watch ", "fact III",
         "forget ", "fit ", "sheet III", "lose I", "lay IIII", "get III", "copy IIIII", "write II", "count I",
         "digest  J"};
+
+    private static final Set<String> LIBRARY = Set.of("Math.min(", "Math.max(", "Integer.bitCount(", "System.arraycopy(");
+    private static final int MOST_DEEP = 8;
 
     private static final Check check = new Check();
 
@@ -111,22 +116,48 @@ public final class RulesTest {
         check.isTrue("no lambda", !bare.contains("->"));
         check.isTrue("no method reference", !bare.contains("::"));
         check.isTrue("no static block", !Pattern.compile("static\\s*\\{").matcher(bare).find());
+        library(bare);
         shortMethods(bare);
     }
 
     private static void shortMethods(String bare) {
-        Matcher m = Pattern.compile("(?m)^(    |        )[a-zA-Z][^\n;=]*\\([^;{}]*\\) \\{$").matcher(bare);
-        int methods = 0;
+        Matcher m = Pattern.compile("(?m)^(    |        )[a-zA-Z][^\n;=]*?(\\w+)\\([^;{}]*\\) \\{$").matcher(bare);
+        Map<String, String> bodies = new TreeMap<>();
         while (m.find()) {
             String end = "\n" + m.group(1) + "}\n";
             int stop = bare.indexOf(end, m.end());
             if (stop < 0 || m.group().trim().matches("(if|for|while|switch)\\b.*")) {
                 continue;
             }
-            methods++;
-            long lines = bare.substring(m.start(), stop).chars().filter(c -> c == '\n').count();
+            String body = bare.substring(m.end(), stop);
+            bodies.merge(m.group(2), body, String::concat);
+            long lines = body.chars().filter(c -> c == '\n').count();
             check.isTrue(m.group().trim() + " is short", lines < 60);
         }
-        check.isTrue("methods were seen", methods >= FACE.length);
+        for (String row : FACE) {
+            String name = row.split(" ")[0];
+            check.isTrue(name + " was seen", bodies.containsKey(name));
+            int depth = depth(name, bodies, MOST_DEEP + 1);
+            check.isTrue(name + " goes at most eight calls deep, not " + depth, depth <= MOST_DEEP);
+        }
+    }
+
+    /** Methods of one name are taken as one, so this is never less than what a run can reach. */
+    private static int depth(String name, Map<String, String> bodies, int left) {
+        int deepest = 0;
+        Matcher m = Pattern.compile("(?<!new )\\b(\\w+)\\(").matcher(bodies.get(name));
+        while (left > 1 && m.find()) {
+            if (bodies.containsKey(m.group(1))) {
+                deepest = Math.max(deepest, depth(m.group(1), bodies, left - 1));
+            }
+        }
+        return 1 + deepest;
+    }
+
+    private static void library(String bare) {
+        Matcher m = Pattern.compile("\\b(Math|Integer|Long|System|String|Arrays)\\.\\w+\\b\\(?").matcher(bare);
+        while (m.find()) {
+            check.isTrue(m.group() + " is of the library that LANGUAGE.md lists", LIBRARY.contains(m.group()));
+        }
     }
 }
